@@ -302,6 +302,14 @@ public final class PromisesTest {
         x.tell(0);
         guestIs(x, 0, 0, 0, 1, 0, NONE);
         guestIs(x, 1, 1, 9, 2, 1, NONE);
+        SupperTales y = Check.inn("IGa03Gb03Gc03", "wbcwba", "kac");
+        y.tell(0);
+        guestIs(y, 0, 0, 0, 3, 1, NONE);
+        guestIs(y, 1, 1, -1, 3, 1, 2);
+        guestIs(y, 2, 2, 0, 3, 1, 1);
+        y.tell(1);
+        guestIs(y, 1, 1, -1, 3, 1, NONE);
+        guestIs(y, 2, 2, 0, 3, 0, NONE);
     }
 
     private void bears() {
@@ -467,6 +475,8 @@ public final class PromisesTest {
         due("two coins: power for one only", x.shortest(2, 2, 2), NONE);
         due("takes a name", x.shortest(1, 3, 2), 1);
         due("a name that nobody bears", x.shortest(1, 3, 3), NONE);
+        due("no coin or more", x.shortest(0, 2, 0), 0);
+        due("the third of a name by two", Check.inn("IGa03Ga03Ga93").shortest(2, 0, 0), 2);
         due("no power", x.shortest(2, 3, 0), NONE);
         due("end -1", x.shortest(0, -1, 0), OUTSIDE);
         due("end 4, no such guest", x.shortest(9, 4, 0), OUTSIDE);
@@ -546,6 +556,8 @@ public final class PromisesTest {
         due("an empty tale", Check.inn("IGa01").chosen(0, true), 0);
         SupperTales y = Check.inn("IGa01Gb01Ga01", "tabkab");
         due("the other a, or none, if it took b", y.chosen(0, false), 1 + 2 + 4);
+        due("fined for want of an other, it has no coin to give, but power", Check.inn("IGa11Gb00", "kacgabkab").chosen(0, true), 2);
+        due("with a coin more it gives it", Check.inn("IGa21Gb00", "kacgabkab").chosen(0, false), 0);
         SupperTales z = Check.inn("IGa03Gb03Gc03", "kbc");
         z.tell(0);
         Check.tale(z, 0, "kab");
@@ -561,11 +573,25 @@ public final class PromisesTest {
         due("a gift there and back", Check.inn("IGa11Gb01", "gabgba").round(0), 1);
         due("coins run out, then fines", Check.inn("IGa31Gb00", "gab").round(0), NONE);
         due("killed on the first night, then nothing", Check.inn("IGa03Gb03Gc03", "kabtac").round(0), 102);
+        SupperTales long60 = Check.inn("IGc71Ga83Gb91Gc83Gc91", "gcbwddtcbtbbgbckdatbctba", "gacgdcwdagcbgdd");
+        nightsOf(long60, 1, 5);
+        due("60 nights", long60.round(0) % 100, 60);
+        SupperTales long61 = Check.inn("IGc91Gb92Gd91Gc92Gd91", "taagdbtdctcctcdtcb", "gddgbdgcb");
+        nightsOf(long61, 1, 60);
+        due("61 nights", long61.round(0), NONE);
+        nightsOf(long61, 0, 1);
+        due("one less", long61.round(0) % 100, 60);
         due("round(3)", new SupperTales().round(3), UNKNOWN);
         due("round(-1)", new SupperTales().round(-1), UNKNOWN);
         SupperTales x = Check.inn("IGa11Gb01", "gab");
         x.round(0);
         due("nothing changes", x.count(2) * 1000 + x.guest(0, 1), 101);
+    }
+
+    private static void nightsOf(SupperTales x, int tale, int nights) {
+        for (int i = 0; i < nights; i++) {
+            x.tell(tale);
+        }
     }
 
     private void kindsAre(String inn, String tale, int want) {
@@ -653,6 +679,12 @@ public final class PromisesTest {
         Check.tale(x, 0, "kca");
         due("an a dies, a c is fined: b and d", x.rests(0, 1, 0), 4);
         due("the first one", x.rests(0, 1, 1), 11);
+        SupperTales y = Check.inn("IGd03Gd03Gc93", "gca");
+        due("the first a gets a coin; the other is no c", y.rests(0, 1, 0), 3);
+        due("the first one", y.rests(0, 1, 1), 0);
+        due("the other way about", y.rests(1, 0, 0), 3);
+        Check.tale(y, 0, "kcagcb");
+        due("the first b gets a coin, the other is no a, no c", y.rests(1, 0, 1), 11);
         x.tell(0);
         due("one is dead", x.rests(0, 1, 0), STATE);
         due("one is dead", x.rests(1, 0, 1), STATE);
@@ -745,6 +777,9 @@ public final class PromisesTest {
         x.odds(10, 0, 0);
         due("what is seen has no odds", x.likely(1, true), STATE);
         due("what is seen has no odds", x.likely(1, false), STATE);
+        x.odds(9, 1, 0);
+        fraction(x, 1, 1, 1);
+        fraction(x, 2, 0, 1);
         fraction(x, 3, UNKNOWN, UNKNOWN);
         fraction(x, -1, UNKNOWN, UNKNOWN);
     }

@@ -390,8 +390,7 @@ public final class SupperTales {
             return STATE;
         }
         int own = holds(fitting, tale) ? tenths[tale] : 0;
-        int common = greatestCommonDivisor(own, together);
-        return (upper ? own : together) / common;
+        return inLeastTerms(upper ? own : together, own, together);
     }
 
     public long seed(long v) {
@@ -509,14 +508,13 @@ public final class SupperTales {
         return deed % NAMES;
     }
 
-    /** At least 1, so that both can be divided by it. */
-    private static int greatestCommonDivisor(int a, int b) {
-        for (int divisor = Math.max(a, b); divisor > 1; divisor--) {
-            if (a % divisor == 0 && b % divisor == 0) {
-                return divisor;
+    private static int inLeastTerms(int part, int above, int below) {
+        for (int divisor = below; divisor > 1; divisor--) {
+            if (above % divisor == 0 && below % divisor == 0) {
+                return part / divisor;
             }
         }
-        return 1;
+        return part;
     }
 
     private void holdAct() {

@@ -86,14 +86,7 @@ final class Check {
         }
     }
 
-    /** A tale that is told once, without leaving its letters behind. */
-    static int tellOnce(SupperTales x, int tale, String letters, String lettersBefore) {
-        tale(x, tale, letters);
-        int done = x.tell(tale);
-        tale(x, tale, lettersBefore);
-        return done;
-    }
-
+    /** Name, coins, death and wedding of each guest, such as "0:a3; 1:b5 dead; 2:c-1 wed to 3;". */
     static String guests(SupperTales x) {
         StringBuilder s = new StringBuilder();
         for (int guest = 0; x.guest(guest, 0) != UNKNOWN; guest++) {

@@ -179,6 +179,16 @@ public final class DawnEdgesTest {
         due("told now: tale 1 leaves it what it has", x.which(), 2);
         x.odds(10, 0, 0);
         due("by no odds too", x.which(), 2);
+        check.says("WHICH, as bits.");
+        SupperTales y = Check.inn("IGa03Gb03Gc03", "kab", "kac", "");
+        for (int fitting = 0; fitting < 8; fitting++) {
+            for (int tale = 0; tale <= 2; tale++) {
+                Check.tale(y, tale, (fitting >> tale & 1) == 1 ? "kab" : "kac");
+            }
+            y.unsee();
+            y.see(1, true);
+            due("1 is dead by " + fitting, y.which(), fitting);
+        }
     }
 
     private void fractionIs(SupperTales x, int tale, int above, int below) {

@@ -33,6 +33,7 @@ public final class RefusedTest {
         test.maker = RefusedTest::gone;
         test.emptyRows();
         test.maker = RefusedTest::busy;
+        test.order();
         test.questions();
         test.questionsOfNames();
         test.backAndForth();
@@ -326,6 +327,36 @@ public final class RefusedTest {
             refused("likely(" + tale + ", true)", x -> x.likely(asked, true), STATE);
             refused("likely(" + tale + ", false)", x -> x.likely(asked, false), STATE);
         }
+    }
+
+    /** Each call to which several refusals apply at once, pair by pair. */
+    private void order() {
+        check.says("REFUSALS, of several the first that a call names");
+        refused("write: OUTSIDE ahead of FULL", x -> x.write(256), OUTSIDE);
+        refused("quill: UNKNOWN ahead of OUTSIDE", x -> x.quill(3, 256), UNKNOWN);
+        refused("quill: OUTSIDE ahead of FULL", x -> x.quill(1, 256), OUTSIDE);
+        refused("guest: UNKNOWN ahead of OUTSIDE", x -> x.guest(5, 5), UNKNOWN);
+        refused("give: UNKNOWN ahead of OUTSIDE", x -> x.give(5, 4), UNKNOWN);
+        refused("give: OUTSIDE ahead of STATE", x -> x.give(DEAD, 4), OUTSIDE);
+        refused("would: UNKNOWN ahead of OUTSIDE", x -> x.would(3, 4), UNKNOWN);
+        refused("shortest: OUTSIDE, an end, ahead of UNKNOWN", x -> x.shortest(5, 4, 0), OUTSIDE);
+        refused("shortest: OUTSIDE, a guest v, ahead of UNKNOWN", x -> x.shortest(5, 1, 5), OUTSIDE);
+        refused("shortestAt: OUTSIDE, an end, ahead of UNKNOWN", x -> x.shortestAt(5, 4, 0, 0), OUTSIDE);
+        refused("shortestAt: OUTSIDE, a guest v, ahead of UNKNOWN", x -> x.shortestAt(5, 1, 5, 0), OUTSIDE);
+        refused("mean: UNKNOWN ahead of OUTSIDE", x -> x.mean(5, 4), UNKNOWN);
+        refused("mean: OUTSIDE ahead of STATE", x -> x.mean(DEAD, 4), OUTSIDE);
+        refused("rests: UNKNOWN ahead of OUTSIDE, both are one", x -> x.rests(5, 5, 0), UNKNOWN);
+        refused("rests: UNKNOWN ahead of OUTSIDE, what", x -> x.rests(0, 5, 2), UNKNOWN);
+        refused("rests: UNKNOWN ahead of STATE", x -> x.rests(DEAD, 5, 0), UNKNOWN);
+        refused("rests: OUTSIDE, both are one, ahead of STATE", x -> x.rests(DEAD, DEAD, 0), OUTSIDE);
+        refused("rests: OUTSIDE, what, ahead of STATE", x -> x.rests(0, DEAD, 2), OUTSIDE);
+        refused("see: UNKNOWN ahead of FULL", x -> x.see(5, true), UNKNOWN);
+        refused("seeCoins: UNKNOWN ahead of OUTSIDE", x -> x.seeCoins(5, 51), UNKNOWN);
+        refused("seeCoins: UNKNOWN ahead of FULL", x -> x.seeCoins(5, 0), UNKNOWN);
+        refused("seeCoins: OUTSIDE ahead of FULL", x -> x.seeCoins(0, 51), OUTSIDE);
+        maker = RefusedTest::gone;
+        refused("likely: UNKNOWN ahead of STATE", x -> x.likely(3, true), UNKNOWN);
+        maker = RefusedTest::busy;
     }
 
     private void questions() {

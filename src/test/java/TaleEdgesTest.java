@@ -51,7 +51,7 @@ public final class TaleEdgesTest {
         x.tell(1);
         Check.tale(x, 1, "");
         due("who was dead is dead then", x.would(1, 2), 8 + 16 + 2 + 1);
-        check.says("If a TALE is TOLD now: UNKNOWN; OUTSIDE.");
+        check.says("UNKNOWN; OUTSIDE.");
         for (int tale : NO_TALES) {
             due("would(" + tale + ", 0)", x.would(tale, 0), UNKNOWN);
             due("would(" + tale + ", 4): UNKNOWN is named first", x.would(tale, 4), UNKNOWN);
@@ -194,6 +194,13 @@ public final class TaleEdgesTest {
     }
 
     private void shortest() {
+        check.says("SHORTEST: how many DEEDS; NONE.");
+        SupperTales alike = Check.inn("IGa03Ga03Ga03Ga03", "kaa");
+        due("1 by one", alike.shortest(1, 0, 0), 1);
+        due("2 by two", alike.shortest(2, 0, 0), 2);
+        due("3 by none", alike.shortest(3, 0, 0), NONE);
+        alike.tell(0);
+        due("1 is dead already", alike.shortest(1, 0, 0), 0);
         check.says("OUTSIDE: end (0 to 3), v (1: a GUEST that there is; 2: 0 to 20; 3: a NAME); UNKNOWN: guest.");
         SupperTales x = Check.inn("IGa03Gb03Gc03");
         for (int end : new int[] {-1, 4, LOWEST, HIGHEST}) {

@@ -8,6 +8,7 @@ public final class TextEdgesTest {
 
     public static void main(String[] args) {
         TextEdgesTest test = new TextEdgesTest();
+        test.constants();
         test.names();
         test.lengths();
         test.inns();
@@ -200,6 +201,15 @@ public final class TextEdgesTest {
         }
         String allowed = new String[] {"0123", "G", "abcd", "0123456789"}[place % 4];
         return place < 21 && allowed.indexOf(letter) >= 0;
+    }
+
+    private void constants() {
+        check.says("NONE is -9.");
+        due("NONE", SupperTales.NONE, -9);
+        due("UNKNOWN", SupperTales.UNKNOWN, -1);
+        due("OUTSIDE", SupperTales.OUTSIDE, -2);
+        due("STATE", SupperTales.STATE, -3);
+        due("FULL", SupperTales.FULL, -4);
     }
 
     private void newObject() {
